@@ -610,27 +610,44 @@ public final class BathRim {
             }
         }
 
-        void passNight() {
+        /** The inches taken ahead of the night, for the inches taken behind it. */
+        int passNightBy(int taken) {
             int crest = crestBehind(0);
-            // taken ahead of the night, so that nobody's fall loosens another's grip in the same night
-            int taken = inchesTaken();
+            int left = taken;
             for (int m = 0; m < men; m++) {
-                int high = stands(m) ? highAt(inches[m], crest) : 0;
+                int inch = inches[m];
+                int high = inch == FALLEN ? 0 : highAt(inch, crest);
                 if (high > 0) {
+                    // grips are by those taken ahead of the night: nobody's fall loosens another in the same one
                     if (gripOf(m, taken) < high) {
                         inches[m] = FALLEN;
-                    } else {
-                        paints[m] = Math.max(0, paints[m] - 1);
+                        left ^= 1 << inch;
+                    } else if (paints[m] > 0) {
+                        paints[m]--;
                     }
                 }
             }
             night++;
+            return left;
+        }
+
+        void passNight() {
+            passNightBy(inchesTaken());
         }
 
         void passSome(int n) {
-            for (int k = 0; k < n; k++) {
-                passNight();
+            passWhile(n, 0);
+        }
+
+        /** Passes n nights, or fewer, once fewer than these stand: how many stand then. */
+        int passWhile(int n, int fewest) {
+            int taken = inchesTaken();
+            int stand = Integer.bitCount(taken);
+            for (int k = 0; k < n && stand >= fewest; k++) {
+                taken = passNightBy(taken);
+                stand = Integer.bitCount(taken);
             }
+            return stand;
         }
 
         void marchByDraw() {
@@ -965,10 +982,7 @@ public final class BathRim {
                 trial.addPaint(m, shares[m]);
             }
             // who has fallen does not stand again, so fewer than the most need no look at the nights left
-            for (int k = 0; k < askedNights && trial.howManyStand() >= mostStand; k++) {
-                trial.passNight();
-            }
-            int stand = trial.howManyStand();
+            int stand = trial.passWhile(askedNights, mostStand);
             int paint = trial.paintOfStanding();
             if (stand > mostStand || stand == mostStand && paint > mostPaint) {
                 mostStand = stand;
