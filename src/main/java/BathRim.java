@@ -11,6 +11,7 @@ public final class BathRim {
     private static final int MOST_HEIGHT = 12;
     private static final int MOST_REACH = 5;
     private static final int MOST_COATS = 8;
+    private static final int MOST_PARTINGS = 1287; // of 8 coats among 6 men
     private static final int FALLEN = -1;
     private static final int LOWEST_31_BITS = 2147483647;
 
@@ -951,6 +952,7 @@ public final class BathRim {
         int mostStand;
         int mostPaint;
 
+        /** The caller has looked that there is a man. */
         void part(Rim now, int coats, int n) {
             if (coats == askedCoats && n == askedNights && asked.isLike(now)) {
                 return;
@@ -960,20 +962,36 @@ public final class BathRim {
             askedNights = n;
             mostStand = -1;
             mostPaint = -1;
-            partFrom(0, coats);
+            beginShares(coats);
+            boolean more = true;
+            for (int tries = 0; tries < MOST_PARTINGS && more; tries++) {
+                tryShares();
+                more = nextShares();
+            }
         }
 
-        /** Shares rise from the first man on, so the first of like ones is met first. */
-        private void partFrom(int man, int left) {
-            if (man >= asked.men - 1) {
-                shares[man] = left;
-                tryShares();
-                return;
+        private void beginShares(int coats) {
+            Arrays.fill(shares, 0);
+            shares[asked.men - 1] = coats;
+        }
+
+        /** Shares rise from the first man on, so the first of like ones is met first; false behind the last ones. */
+        private boolean nextShares() {
+            int last = asked.men - 1;
+            int man = last - 1;
+            int taken = shares[last];
+            shares[last] = 0;
+            while (man >= 0 && taken == 0) {
+                taken = shares[man];
+                shares[man] = 0;
+                man--;
             }
-            for (int share = 0; share <= left; share++) {
-                shares[man] = share;
-                partFrom(man + 1, left - share);
+            if (man < 0) {
+                return false;
             }
+            shares[man]++;
+            shares[last] = taken - 1;
+            return true;
         }
 
         private void tryShares() {
@@ -1103,7 +1121,7 @@ public final class BathRim {
         }
 
         private boolean isDigitThere() {
-            return isThere() && letters[place] >= '0' && letters[place] <= '9';
+            return !faulty && place < length && letters[place] >= '0' && letters[place] <= '9';
         }
 
         private boolean isAtEnd() {

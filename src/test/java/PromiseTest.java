@@ -376,6 +376,7 @@ public final class PromiseTest {
         for (Object[] fault : faults) {
             due("rim() of \"" + fault[0] + "\"", faultOf((String) fault[0]), (Integer) fault[1]);
         }
+        due("the greatest of all", faultOf("11+11^12"), 0);
         due("inches 1 and 11", faultOf("0+1^5;p1@1,p1@11"), 2);
         due("a fallen one bars no inch", faultOf("0+1^5;p1,p1@0,p1"), 3);
     }
@@ -528,6 +529,10 @@ public final class PromiseTest {
         // 1103527590 by 65536 is 16838, even: man 0, who is at inch 5 himself
         due("drift(1)", y.drift(1), 3);
         due("of(0, 2)", y.of(0, 2), 5);
+        BathRim by = told("0+0^0;p0@0,p0@1,p0@2,p0@3,p0@4");
+        // 16838 left over by 5 is 3
+        due("drift(1)", by.drift(1), 31);
+        due("of(3, 2)", by.of(3, 2), 5);
         BathRim z = told("0+0^0;p0@2,p0@5,p0@1");
         // 16838 left over by 3 is 2: to inch 5, where man 1 is
         due("drift(1)", z.drift(1), 7);
@@ -677,6 +682,8 @@ public final class PromiseTest {
         due("11 high stands once", told("0+0^11;p9@0").falls(0), 2);
         due("3 high wears him down", told("0+0^3;p9@0").falls(0), 10);
         due("none", told("0+0^2;p9@0").falls(0), NONE);
+        // touched in nights 0, 11, 12, 23, .. 48; in night 59 his grip of 1 is below 2
+        due("the last that is foretold", told("1+1^2;l9@0").falls(0), 60);
     }
 
     private static void alone() {
@@ -690,6 +697,7 @@ public final class PromiseTest {
         due("none", told("0+0^0;p0@0,p0@1").alone(), NONE);
         due("both at once", told("5+0^5;p0@5,p0@6").alone(), 1);
         due("one of two", told("0+0^3;p9@0,p9@11").alone(), 10);
+        due("the last that is foretold", told("1+1^2;l9@0,p0@11").alone(), 60);
     }
 
     private static void post() {
@@ -798,6 +806,7 @@ public final class PromiseTest {
         due("asked again behind another", y.coats(0, 1, -2), 10);
         y.rule(2, 0);
         due("asked again by another law", y.coats(0, 1, -2), 11);
+        coatsAnew();
         BathRim fallen = told("0+0^5;p3,p8");
         due("none stands", fallen.coats(3, 1, -1), 0);
         due("none stands", fallen.coats(3, 1, -2), 0);
@@ -816,6 +825,44 @@ public final class PromiseTest {
             }
             due("of no i", z.coats(0, 1, -3), BAD);
             due("of no i", z.coats(0, 1, LOW), BAD);
+        }
+    }
+
+    /** What was asked before must not be answered again once anything is another. */
+    private static void coatsAnew() {
+        String[] rims = {"0+1^5;l4@5,p3@2", "1+1^5;l4@5,p3@2", "0+2^5;l4@5,p3@2", "0+1^6;l4@5,p3@2", "0+1^5;p4@5,p3@2",
+            "0+1^5;l5@5,p3@2", "0+1^5;l4@6,p3@2", "0+1^5;l4@5,g3@2", "0+1^5;l4@5,p3@2,p0@11", "0+1^5;l4@5"};
+        for (int first = 0; first < rims.length; first++) {
+            for (int n = 1; n <= 30; n += 7) {
+                for (int other = first + 1; other < rims.length; other++) {
+                    askCoatsOfBoth(rims[first], rims[other], n);
+                }
+            }
+        }
+        BathRim x = told("0+1^5;l4@5,p3@2");
+        int first = x.coats(3, 2, -2);
+        due("by fewer coats", x.coats(2, 2, -2), told("0+1^5;l4@5,p3@2").coats(2, 2, -2));
+        due("by more nights", x.coats(3, 3, -2), told("0+1^5;l4@5,p3@2").coats(3, 3, -2));
+        due("by as many", x.coats(3, 2, -2), first);
+        BathRim later = told("0+1^5;p9@11");
+        due("in night 0", later.coats(0, 1, -2), 9);
+        later.rule(2, 0);
+        later.nights(11);
+        later.rule(2, 5);
+        due("in night 11", later.coats(0, 1, -2), 8);
+        later.undo();
+        later.undo();
+        due("in night 9", later.coats(0, 1, -2), 8);
+    }
+
+    private static void askCoatsOfBoth(String one, String other, int n) {
+        BathRim x = told(one);
+        x.coats(3, n, 0);
+        tell(x, other);
+        x.rim();
+        BathRim fresh = told(other);
+        for (int i = -2; i < 3; i++) {
+            due("coats(3, " + n + ", " + i + ") of " + other + " behind " + one, x.coats(3, n, i), fresh.coats(3, n, i));
         }
     }
 
@@ -888,6 +935,11 @@ public final class PromiseTest {
         // one without a grip still stands next to the general in this night
         fraction(g, 3, 5, 1, 8);
         fraction(g, 2, 5, 1, 2);
+        BathRim later = told("5+5^5;p9@5,p9@6");
+        later.nights(1);
+        // the wave is at 10 in night 1: 0 high at 5, 1 at 6
+        fraction(later, 2, 4, 3, 5);
+        fraction(later, 1, 4, 1, 1);
         BathRim none = new BathRim();
         fraction(none, 0, 3, 1, 1);
         fraction(none, 1, 3, 0, 1);
@@ -992,6 +1044,8 @@ public final class PromiseTest {
         row(x, 2, 1, 65536 + 8, -1);
         due("shorts are cut", x.worn(0, 2, 1, 0, 1, 1), 512);
         due("-1 is no paint", x.worn(0, 2, 1, 1, 1, 1), 0);
+        due("-1 is of no kind", x.worn(0, 2, 1, 1, 1, 0), 0);
+        due("-1 is of no height", x.worn(0, 2, 1, 1, 1, 2), 0);
         BathRim z = told("0+0^3;p5@0");
         row(z, 0, 0, 0, 0);
         // 0 stays: he falls without paint (grip 2), or loses his last (grip 3)
