@@ -806,6 +806,12 @@ public final class PromiseTest {
         due("asked again behind another", y.coats(0, 1, -2), 10);
         y.rule(2, 0);
         due("asked again by another law", y.coats(0, 1, -2), 11);
+        // 8 coats give him the grip of 10 that the wave asks for: the last parting of all
+        BathRim last = told("0+0^10;p0@0,p0,p0,p0,p0,p0");
+        due("all to the first", last.coats(8, 1, -1), 1);
+        due("all to the first", last.coats(8, 1, -2), 7);
+        due("all to the first", last.coats(8, 1, 0), 8);
+        due("7 do not do", last.coats(7, 1, -1), 0);
         coatsAnew();
         BathRim fallen = told("0+0^5;p3,p8");
         due("none stands", fallen.coats(3, 1, -1), 0);
