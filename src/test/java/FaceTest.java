@@ -10,6 +10,7 @@ import java.util.HashSet;
 import java.util.List;
 import java.util.Set;
 import java.util.TreeSet;
+import java.util.regex.Pattern;
 
 /** The public face is the document's and no more, and the source keeps to those rules that a text shows. */
 public final class FaceTest {
@@ -22,9 +23,14 @@ public final class FaceTest {
         "item(int,int,int,long)", "copy(int,int,int,int,int)"};
     private static final String[] CONSTANTS = {
         "BAD=-1", "NOT=-2", "FULL=-3", "NONE=-4", "NULL=-11", "CAST=-12", "INDEX=-13", "SIZE=-14"};
+    private static final String OWN_THROWS = "(IllegalState|IllegalArgument|IndexOutOfBounds|Arithmetic|UnsupportedOperation"
+        + "|NoSuchElement|Runtime)Exception";
+    /** What the language leaves out, as far as a line shows it (an arrow is fine behind a case alone). */
     private static final String[] FORBIDDEN = {
-        "->", "::", "Exact(", "finally", "synchronized", "assert ", "catch", "Object", "HashMap", "Random", "System.out",
-        "System.nanoTime", "System.currentTimeMillis", "Thread", "static {", "package ", "@Override", "MAX_VALUE"};
+        "^(?!\\s*(case|default)\\b).*->", "::", "Exact\\(", "\\b(finally|synchronized|assert|volatile|native)\\b",
+        "\\bcatch \\((?!" + OWN_THROWS + "\\b)", "\\bthrow (?!new " + OWN_THROWS + "\\()", "\\btry \\(", "\\bObject\\b",
+        "\\b(Hash|Tree|Linked)\\w+", "\\bRandom\\b", "\\bSystem\\.(?!arraycopy\\b)", "\\bThread\\b", "\\bstatic \\{", "^package ",
+        "\\b(MAX|MIN)_VALUE\\b", "^import (?!java\\.util\\.(Arrays|ArrayList|List|Iterator|NoSuchElementException);)"};
     private static int wrong = 0;
 
     public static void main(String[] args) throws Exception {
@@ -100,8 +106,8 @@ public final class FaceTest {
             fault("more than twelve classes");
         }
         for (Class<?> inner : classes) {
-            if (!Modifier.isPrivate(inner.getModifiers()) || !Modifier.isStatic(inner.getModifiers())) {
-                fault("not private and static: " + inner);
+            if (Modifier.isPublic(inner.getModifiers()) || Modifier.isProtected(inner.getModifiers())) {
+                fault("neither private nor package-visible: " + inner);
             }
         }
         classes.add(BathRim.class);
@@ -127,12 +133,9 @@ public final class FaceTest {
         for (String line : Files.readAllLines(Path.of("src/main/java/BathRim.java"))) {
             String code = line.replaceAll("//.*", "").replaceAll("^\\s*/?\\*.*", "");
             for (String word : FORBIDDEN) {
-                if (code.contains(word)) {
+                if (Pattern.compile(word).matcher(code).find()) {
                     fault("outside the language (" + word + "): " + line);
                 }
-            }
-            if (code.startsWith("import ") && !code.equals("import java.util.Arrays;")) {
-                fault("outside the library: " + line);
             }
             if (!line.chars().allMatch(c -> c >= 32 && c < 127)) {
                 fault("a sign that is not plain: " + line);

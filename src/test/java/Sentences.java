@@ -115,7 +115,8 @@ abstract class Sentences {
         for (int what = 0; what <= 9; what++) {
             text.append(x.count(what)).append(' ');
         }
-        for (int m = 0; m < x.count(0); m++) {
+        int men = x.count(0);
+        for (int m = 0; m < men; m++) {
             text.append(x.of(m, 0)).append(':').append(x.of(m, 1)).append('@').append(x.of(m, 2)).append(' ');
         }
         int draw = x.seed(0);

@@ -142,7 +142,7 @@ public final class TermsSentenceTest extends Sentences {
     }
 
     private static BathRim nearTheLast() {
-        return late("0+1^1;p9@0,l5@7", 2);
+        return late("0+1^1;p9@0", 2);
     }
 
     private static void theRim() {
@@ -258,6 +258,7 @@ public final class TermsSentenceTest extends Sentences {
             due("at the one end", told("0+0^0;g0@0,p0@1,p0@11").of(0, 3), 3);
             due("at the other end", told("0+0^0;g0@11,p0@10,p0@0").of(0, 3), 3);
             due("fallen ones", told("0+0^0;g0@5,p0,p0").of(0, 3), 2);
+            due("fallen ones, at the end", told("0+0^0;p0,g0@0,p0").of(1, 3), 2);
             // the lame one next to him falls; then nobody stands there
             BathRim x = told("5+0^2;g9@6,l0@5");
             x.nights(1);
@@ -416,6 +417,14 @@ public final class TermsSentenceTest extends Sentences {
             BathRim x = told("11+0^5;p0@0,p0@1");
             due("his own", x.post(0, 1, 0), 0);
             due("not another's", x.post(1, 1, 0), 1);
+            // man 4 falls at each INCH where nobody is; the first of them is 1
+            BathRim y = told("0+0^11;p9@0,p0@9,p0@10,p0@11,p0");
+            due("not another's, where he would fall with him", y.post(4, 1, 0), 1);
+            due("how many", y.post(4, 1, 1), 4);
+            BathRim z = told("0+0^12;p0@0,p0@10,p0@11");
+            due("none behind 11", z.post(0, 1, 0), 0);
+            due("none behind 11", z.post(0, 1, 1), 2);
+            due("none ahead of 0", told("11+0^12;p0@11,p0@0,p0@1").post(0, 1, 1), 2);
         });
         says("Terms 2", "at which he should be now (stand there, FALLEN or not)", () -> {
             BathRim x = told("0+0^3;v0@0,p0");
@@ -491,6 +500,22 @@ public final class TermsSentenceTest extends Sentences {
         }
     }
 
+    /** Each change of it, of those that the test of coats knows, parts three coats in another way or to other paint. */
+    private static BathRim asked() {
+        BathRim x = told("0+1^5;p2@3,l1,g0@1");
+        x.image();
+        x.march(2, 2);
+        return x;
+    }
+
+    private static String partedByThree(BathRim x) {
+        StringBuilder text = new StringBuilder();
+        for (int i = -2; i <= 3; i++) {
+            text.append(x.coats(3, 2, i)).append(' ');
+        }
+        return text.toString();
+    }
+
     private static void coats() {
         says("Terms 2", "COATS of k (0 .. 8), n NIGHTS (1 .. 30)", () -> {
             bounds("coats(v, 1, 0)", 0, 8, v -> rich().coats(v, 1, 0));
@@ -500,6 +525,8 @@ public final class TermsSentenceTest extends Sentences {
             due("30 nights", x.coats(0, 30, -1), 0);
             parted("0+0^0;p5@0", 0, 1, 5, 1, 0);
             parted("0+0^0;p0@0", 8, 1, 8, 1, 8);
+            parted("0+0^10;p0@0,p0,p0,p0,p0,p0", 8, 1, 7, 1, 8, 0, 0, 0, 0, 0); // 8 make a grip of 10
+            parted("0+0^10;p0@0,p0,p0,p0,p0,p0", 7, 1, 0, 0, 0, 0, 0, 0, 0, 7); // 7 do not
         });
         says("Terms 2", "(1 PAINT each, 9 at most, what is above is lost)", () -> {
             parted("0+0^0;p9@0", 8, 1, 9, 1, 8);
@@ -509,6 +536,35 @@ public final class TermsSentenceTest extends Sentences {
         says("Terms 2", "should be parted among all MEN now", () -> {
             parted("0+0^0;p9@0,p9", 3, 1, 9, 1, 0, 3); // the FALLEN one takes what is lost on the other
             parted("0+0^0;p3,p4", 3, 1, 0, 0, 0, 3);
+        });
+        says("Terms 2", "parted among all MEN now", () -> {
+            Step[] changes = {x -> x.paint(0, 1), x -> x.march(0, 0), x -> x.rule(0, 1), x -> x.rule(1, 2), x -> x.rule(2, 4),
+                x -> x.nights(1), x -> x.put(1, 6), x -> x.man(0, 4, 10), x -> x.paint(2, 1), x -> x.march(2, 4),
+                x -> x.undo(), x -> x.restore()};
+            String before = partedByThree(asked());
+            for (int k = 0; k < changes.length; k++) {
+                BathRim asked = asked();
+                partedByThree(asked);
+                changes[k].on(asked);
+                BathRim fresh = asked();
+                changes[k].on(fresh);
+                String behind = partedByThree(fresh);
+                same("change " + k, partedByThree(asked), behind);
+                due("change " + k + " tells nothing: 1", behind.equals(before) ? 1 : 0, 0);
+                due("of other coats", asked.coats(4, 2, -2), fresh.coats(4, 2, -2));
+                due("for other nights", asked.coats(4, 3, -2), fresh.coats(4, 3, -2));
+            }
+            BathRim x = told("0+1^5;p9@0");
+            due("in night 0", x.coats(0, 1, -2), 8);
+            x.rule(2, 0);
+            x.nights(6);
+            x.rule(2, 5);
+            due("in night 6", x.coats(0, 1, -2), 9);
+            for (String kind : new String[] {"p", "l", "g", "d", "v"}) {
+                tell(x, "0+1^4;" + kind + "2@0");
+                x.rim();
+                due("kind " + kind, x.coats(0, 1, -1), kind.equals("l") || kind.equals("d") ? 0 : 1);
+            }
         });
         says("Terms 2", "so that most stand behind them, of like ones PAINT of who stands then is most together", () -> {
             parted("0+0^5;p0@0,p0@11", 3, 1, 2, 2, 3, 0); // 3 make a grip of 5
@@ -582,6 +638,13 @@ public final class TermsSentenceTest extends Sentences {
             odds(x, 3, 3, 49, 100);
             odds(x, 2, 3, 91, 100);
             odds(told("5+0^4;g0@5,p9@4,p9@6"), 3, 5, 1, 8); // who has no grip still stands next to the general
+            BathRim y = told("0+6^1;p0@0,p0@6,p0@11");
+            odds(y, 3, 3, 7, 10);
+            y.march(2, 7);
+            y.march(0, 1);
+            odds(y, 3, 3, 1, 1); // the wave is at 0 in this NIGHT, at 6 in the next
+            y.nights(1);
+            odds(y, 3, 3, 7, 10);
         });
         says("Terms 2", "how likely m (0 .. 6) at least stand behind it", () -> {
             bounds("steam(v, 0, 0)", 0, 6, v -> rich().steam(v, 0, 0));
@@ -594,6 +657,11 @@ public final class TermsSentenceTest extends Sentences {
             odds(new BathRim(), 1, 3, 0, 1);
         });
         says("Terms 2", "a fraction in lowest terms", () -> {
+            BathRim one = told("5+0^5;p9@5");
+            int[][] lowest = {{1, 1}, {9, 10}, {4, 5}, {7, 10}, {3, 5}, {1, 2}, {2, 5}, {3, 10}, {1, 5}, {1, 10}, {0, 1}};
+            for (int c = 0; c <= 10; c++) {
+                odds(one, 1, c, lowest[c][0], lowest[c][1]);
+            }
             BathRim x = told("5+0^5;p9@5,p9@6");
             odds(x, 2, 5, 1, 4);
             odds(x, 1, 5, 3, 4);
@@ -711,6 +779,15 @@ public final class TermsSentenceTest extends Sentences {
         return (draw * 1103515245L + 12345L) & 0x7fffffffL;
     }
 
+    /** A draw behind which the next one is this: the factor is odd, so it has an inverse by 31 bits. */
+    private static int drawAhead(long draw) {
+        long inverse = 1;
+        for (int k = 0; k < 6; k++) {
+            inverse *= 2 - 1103515245L * inverse;
+        }
+        return (int) ((draw - 12345L) * inverse & 0x7fffffffL);
+    }
+
     private static void drift() {
         says("Terms 3", "THE DRAW is a number of 31 bits (1 at first)", () -> {
             BathRim x = new BathRim();
@@ -740,6 +817,19 @@ public final class TermsSentenceTest extends Sentences {
                 x.drift(1);
                 due("of " + many, x.at(5, 0), 16838 % many);
             }
+            for (int whole : new int[] {1, 2, 5, 6, 7, 12345, 32767}) {
+                for (int less = 0; less < 2; less++) {
+                    long draw = whole * 65536L - less;
+                    int inch = (int) (draw / 128 % 12);
+                    BathRim x = new BathRim();
+                    for (int m = 0; m < 6; m++) {
+                        x.man(0, 9, (inch + 1 + m) % 12);
+                    }
+                    x.seed(drawAhead(draw));
+                    x.drift(1);
+                    due("by " + draw, x.at(inch, 0), (whole - less) % 6);
+                }
+            }
             BathRim y = told("0+0^0;p0,p0@1");
             y.drift(1);
             due("who is FALLEN does not march", y.count(4), 2);
@@ -751,6 +841,14 @@ public final class TermsSentenceTest extends Sentences {
                 draw = next(draw);
                 x.drift(1);
                 due("in drift " + n, x.of(0, 2), draw / 128 % 12);
+            }
+            for (int whole : new int[] {1, 2, 11, 12, 13, 24, 16777215}) {
+                x.seed(drawAhead(whole * 128L));
+                x.drift(1);
+                due("by " + whole + " times 128", x.of(0, 2), whole % 12);
+                x.seed(drawAhead(whole * 128L - 1));
+                x.drift(1);
+                due("by 1 less", x.of(0, 2), (whole - 1) % 12);
             }
             BathRim y = told("0+0^0;p0@2,p0@5,p0@1");
             y.drift(1);
@@ -872,6 +970,15 @@ public final class TermsSentenceTest extends Sentences {
                 due("\"" + text + "\"", answerTo(text), -20 - text.length());
             }
             due("60 letters", answerTo("0+" + " ".repeat(58)), -80);
+            due("60 letters", answerTo("0" + " ".repeat(59)), -80);
+            due("60 letters", answerTo("0+0^0;" + " ".repeat(54)), -80);
+            BathRim x = new BathRim();
+            for (String text : cut) {
+                tell(x, "0+0^0;p0@11,l1@10,g2@9");
+                x.rim();
+                tell(x, text);
+                due("\"" + text + "\" on a tape that was longer", x.rim(), -20 - text.length());
+            }
         });
         says("Terms 3", "blanks count for nothing, but end a number", () -> {
             due("anywhere between", answerTo("  11 + 7 ^ 9 ; v 9 @ 11 , d 0 "), 2);
