@@ -980,7 +980,6 @@ public final class BathRim {
             int last = asked.men - 1;
             int man = last - 1;
             int taken = shares[last];
-            shares[last] = 0;
             while (man >= 0 && taken == 0) {
                 taken = shares[man];
                 shares[man] = 0;

@@ -560,6 +560,12 @@ public final class TermsSentenceTest extends Sentences {
             x.nights(6);
             x.rule(2, 5);
             due("in night 6", x.coats(0, 1, -2), 9);
+            BathRim one = told("0+0^1;p2@0");
+            due("as told", one.coats(1, 1, -2), 2);
+            one.paint(0, 1);
+            due("with more paint", one.coats(1, 1, -2), 3);
+            one.march(0, 1);
+            due("at another INCH", one.coats(1, 1, -2), 4);
             for (String kind : new String[] {"p", "l", "g", "d", "v"}) {
                 tell(x, "0+1^4;" + kind + "2@0");
                 x.rim();
