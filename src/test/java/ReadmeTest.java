@@ -13,7 +13,7 @@ import java.util.regex.Pattern;
 /** README.md tells the truth: its examples answer what stands behind them, and it names all that there is. */
 public final class ReadmeTest {
     private static final Pattern CALL = Pattern.compile("x\\.(\\w+)\\(([-\\d, ]*)\\);\\s*// (-?\\d+): .*");
-    private static final Pattern TEXT = Pattern.compile("x\\.type\\(\"(.*)\"\\);");
+    private static final Pattern TEXT = Pattern.compile("for \\(char c : \"(.*)\"\\.toCharArray\\(\\)\\) x\\.type\\(c\\);");
     private static int wrong = 0;
     private static int ran = 0;
 
